@@ -148,7 +148,7 @@ public final class ZoneJudge {
     // ---- 2 judged
 
     public long judge(int judge, int what) {
-        if (!isJudge(judge)) {
+        if (!isJudge(judge) || !isIn(what, 0, 5)) {
             return BAD;
         }
         Zone zone = zones[judge];
@@ -163,10 +163,8 @@ public final class ZoneJudge {
                 return zone.high();
             case 4:
                 return zone.isGood(scene.tolerance) ? 1 : 0;
-            case 5:
-                return scene.points == 0 ? NONE : zone.worst();
             default:
-                return BAD;
+                return scene.points == 0 ? NONE : zone.worst();
         }
     }
 
@@ -730,6 +728,8 @@ public final class ZoneJudge {
         final int[] tried = new int[AXES];
         final Fraction width = new Fraction();
         final Fraction[] widthWithout = new Fraction[MOST_POINTS];
+        /** How far each POINT is along the WAY that was measured last. */
+        final int[] along = new int[MOST_POINTS];
         int least, nextLeast, leastAt;
         int greatest, nextGreatest, greatestAt;
 
@@ -817,12 +817,17 @@ public final class ZoneJudge {
 
         /** Finds the two least and the two greatest along a WAY: the second ones hold without the first. */
         private void measure(int[] way) {
+            int a = way[0];
+            int b = way[1];
+            int c = way[2];
             least = BEYOND;
             nextLeast = BEYOND;
             greatest = -BEYOND;
             nextGreatest = -BEYOND;
             for (int k = 0; k < points; k++) {
-                int far = along(way, k);
+                int m = k * AXES;
+                int far = a * at[m] + b * at[m + 1] + c * at[m + 2];
+                along[k] = far;
                 if (far < least) {
                     nextLeast = least;
                     least = far;
@@ -838,11 +843,6 @@ public final class ZoneJudge {
                     nextGreatest = far;
                 }
             }
-        }
-
-        private int along(int[] way, int k) {
-            int m = k * AXES;
-            return way[0] * at[m] + way[1] * at[m + 1] + way[2] * at[m + 2];
         }
 
         /** Takes the tried WAY, where it is better than what was best. */
@@ -926,7 +926,7 @@ public final class ZoneJudge {
         private int setAt(int far) {
             int set = 0;
             for (int k = 0; k < points; k++) {
-                if (along(best, k) == far) {
+                if (along[k] == far) {
                     set |= 1 << k;
                 }
             }
