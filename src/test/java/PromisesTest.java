@@ -1,9 +1,5 @@
 /** One method a promise: ordinary inputs, the edges that the document names, wrong inputs. Answers by hand. */
-public final class PromisesTest {
-    private static final int BAD = -1, NOT = -2, FULL = -3, NONE = -4, NULL = -11, CAST = -12, INDEX = -13, SIZE = -14;
-    private static final int MAX = Integer.MAX_VALUE, MIN = Integer.MIN_VALUE;
-    private static final Due due = new Due();
-
+public final class PromisesTest extends Setup {
     public static void main(String[] args) {
         newObject();
         add();
@@ -33,30 +29,6 @@ public final class PromisesTest {
         item();
         copy();
         due.end();
-    }
-
-    private static ZoneJudge told(int... numbers) {
-        ZoneJudge j = new ZoneJudge();
-        for (int k = 0; k + 2 < numbers.length; k += 3) j.add(numbers[k], numbers[k + 1], numbers[k + 2]);
-        return j;
-    }
-
-    private static void typed(ZoneJudge j, String text) {
-        for (int k = 0; k < text.length(); k++) j.type(text.charAt(k));
-    }
-
-    private static void reads(String text, int want) {
-        ZoneJudge j = told(9, 9, 9);
-        typed(j, text);
-        due.is("read <" + text + ">", j.read(), want);
-        due.is("points behind <" + text + ">", j.count(0), want < 0 ? 1 : want);
-        due.is("undone behind <" + text + ">", j.count(2), want < 0 ? 1 : 2);
-        due.is("tape behind <" + text + ">", j.type('1'), 1);
-    }
-
-    private static void filled(ZoneJudge j, int sheet, int lane, int n, long... items) {
-        j.sheet(sheet, lane, n);
-        for (int i = 0; i < items.length; i++) j.item(sheet, lane, i, items[i]);
     }
 
     private static void newObject() {
@@ -536,24 +508,6 @@ public final class PromisesTest {
         due.is("22 no points", j.film(0, 0, 0, 6), 0);
         due.is("22 no points, index", j.film(0, 0, 0, 7), INDEX);
         due.is("22 no points, i", j.film(0, 0, 0, -1), INDEX);
-    }
-
-    /** Whether the bytes of sheet 0 are these, all -15 .. 15. */
-    private static void holds(ZoneJudge j, String what, long... items) {
-        for (int i = 0; i < items.length; i++) {
-            due.is(what + ", item " + i, itemOf(j, 0, 0, i), items[i]);
-        }
-    }
-
-    /** No call tells an item: on sheet 3 it stands beside every number, and with the like one there is one corner. */
-    private static long itemOf(ZoneJudge j, int sheet, int lane, int i) {
-        j.sheet(3, lane, 4);
-        j.copy(sheet, i, 3, 0, 1);
-        for (int v = -15; v <= 15; v++) {
-            j.item(3, lane, 2, v);
-            if (j.corners(3, lane, 0, 2) == 1) return v;
-        }
-        return 99;
     }
 
     private static void sheet() {
