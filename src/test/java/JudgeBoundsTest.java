@@ -15,21 +15,29 @@ public final class JudgeBoundsTest extends Setup {
         noCommonDivisor();
         greatWays();
         lowAndHigh();
+        highAskedFirst();
         tenthPoint();
         goodAtTheBound();
         goodWithoutTolerance();
         goodAtMost();
         worstOfLikeOnes();
+        worstOfEach();
         wayBounds();
         withoutBounds();
         withoutFew();
+        withoutOneInside();
         withoutChangesNothing();
+        judgedAnew();
         widthFractions();
         lostBounds();
         lostCertain();
         lostFew();
         lostFractions();
         lostByTolerance();
+        lostAtTheBound();
+        lostSeenInOnePlace();
+        lostOfNeighbours();
+        lostInAnyOrder();
         due.end();
     }
 
@@ -53,6 +61,12 @@ public final class JudgeBoundsTest extends Setup {
     private static void narrower(String what, ZoneJudge j, int by, int k, long above, long below) {
         due.is(what + ": without " + k + ", above", j.without(by, k, 0), above);
         due.is(what + ": without " + k + ", below", j.without(by, k, 1), below);
+    }
+
+    private static ZoneJudge cube(int side) {
+        ZoneJudge j = new ZoneJudge();
+        for (int k = 0; k < 8; k++) j.add(k % 2 * side, k / 2 % 2 * side, k / 4 * side);
+        return j;
     }
 
     /** JUDGES are 0 .. 2, and 3; six things are asked. */
@@ -192,7 +206,7 @@ public final class JudgeBoundsTest extends Setup {
 
     /** Of like ones with the least a, of these the least b, then c. */
     private static void leastWayInSpace() {
-        ZoneJudge cube = told(0, 0, 0, 2, 0, 0, 0, 2, 0, 2, 2, 0, 0, 0, 2, 2, 0, 2, 0, 2, 2, 2, 2, 2);
+        ZoneJudge cube = cube(2);
         ways("cube: least a, then b", cube, 3, 0, 0, 1);
         judged("cube", cube, 3, 4, 1, 15, 240);
         ZoneJudge eight = told(1, 0, 0, -1, 0, 0, 0, 1, 0, 0, -1, 0, 0, 0, 1, 0, 0, -1);
@@ -227,6 +241,10 @@ public final class JudgeBoundsTest extends Setup {
         ZoneJudge j = told(0, -15, 15, 1, 15, -14, 1, -15, -15, 1, 14, 15);
         ways("two lines across", j, 3, 1741, -30, 29);
         judged("two lines across", j, 3, 871, 3482, 3, 12, 1);
+        // AD is (18, 0, 0), BC (0, 18, 0), one above the other
+        ZoneJudge cross = told(-9, 0, 0, 0, -9, 1, 0, 9, 1, 9, 0, 0);
+        ways("the first and the last across the others", cross, 3, 0, 0, 1);
+        judged("the first and the last across the others", cross, 3, 1, 1, 9, 6);
         ZoneJudge k = told(15, 0, -15, -14, 1, 15, -15, 1, -15, 15, 1, 14);
         ways("two lines across, by y", k, 3, 29, 1741, -30);
     }
@@ -241,6 +259,14 @@ public final class JudgeBoundsTest extends Setup {
         judged("one alone is high", j, 3, 1, 1, 14, 1);
         j.move(0, 0, -1);
         judged("one alone is low", j, 3, 1, 1, 1, 14);
+    }
+
+    private static void highAskedFirst() {
+        ZoneJudge j = told(0, 0, 0, 9, 0, 0, 5, 1, 0);
+        due.is("high, ahead of all else", j.judge(2, 3), 4);
+        due.is("then low", j.judge(2, 2), 3);
+        due.is("high of another", j.judge(1, 3), 7);
+        due.is("high again", j.judge(2, 3), 4);
     }
 
     /** Sets are bits: POINT 9 is 512. */
@@ -323,6 +349,18 @@ public final class JudgeBoundsTest extends Setup {
         due.is("one point alone", told(3, 3, 3).judge(3, 5), 0);
     }
 
+    /** Each of ten may be the WORST, by a band and by the slab. */
+    private static void worstOfEach() {
+        for (int at = 0; at < 10; at++) {
+            ZoneJudge j = new ZoneJudge();
+            for (int k = 0; k < 10; k++) j.add(k, k == at ? 5 : 0, k * k % 7);
+            due.is("worst of a band", j.judge(2, 5), at);
+            due.is("worst of the slab", j.judge(3, 5), at);
+            narrower("without the worst", j, 2, at, 0, 1);
+            narrower("without the worst", j, 3, at, 0, 1);
+        }
+    }
+
     /** 0 a, 1 b, 2 c, of JUDGE 3 alone; NONE: no WAY. */
     private static void wayBounds() {
         ZoneJudge j = told(0, 0, 0, 1, 2, 3, 3, 2, 1);
@@ -361,12 +399,87 @@ public final class JudgeBoundsTest extends Setup {
         narrower("three left in space", told(0, 0, 0, 4, 0, 0, 0, 4, 0, 0, 0, 4), 3, 3, 0, 1);
     }
 
+    /** Without a POINT that touches nothing it's as wide as with it. */
+    private static void withoutOneInside() {
+        for (int at = 0; at < 5; at++) {
+            int[][] square = {{0, 0}, {6, 0}, {6, 6}, {0, 6}};
+            ZoneJudge j = new ZoneJudge();
+            for (int k = 0, corner = 0; k < 5; k++) {
+                int[] place = k == at ? new int[] {2, 3} : square[corner++];
+                j.add(place[0], place[1], 0);
+            }
+            judged("one inside", j, 2, 36, 1);
+            narrower("one inside", j, 2, at, 36, 1);
+        }
+        for (int at = 0; at < 9; at++) {
+            ZoneJudge j = new ZoneJudge();
+            for (int k = 0, corner = 0; k < 9; k++) {
+                if (k == at) {
+                    j.add(2, 3, 1);
+                } else {
+                    j.add(corner % 2 * 6, corner / 2 % 2 * 6, corner / 4 * 6);
+                    corner++;
+                }
+            }
+            judged("one inside", j, 3, 36, 1);
+            narrower("one inside", j, 3, at, 36, 1);
+        }
+    }
+
     private static void withoutChangesNothing() {
         ZoneJudge j = told(0, 0, 0, 4, 0, 0, 0, 3, 0);
         narrower("without", j, 2, 0, 0, 1);
         due.is("all stay", j.count(0), 3);
         due.is("nothing to be undone", j.count(2), 3);
         judged("as ahead", j, 2, 144, 25, 1, 6, 0, 0);
+    }
+
+    /** What was judged ahead of a change is no answer behind it. */
+    private static void judgedAnew() {
+        ZoneJudge j = told(0, 0, 0, 4, 0, 0, 0, 3, 0);
+        judged("at first", j, 2, 144, 25, 1, 6, 0, 0);
+        typed(j, "1,1,1;5,1,1;5,2,1");
+        j.read();
+        judged("by a text of all others", j, 2, 16, 17, 5, 2);
+        j.undo();
+        judged("undone", j, 2, 144, 25, 1, 6);
+        j.image();
+        j.move(1, 0, 3);
+        judged("moved", j, 2, 9, 2, 1, 6);
+        j.restore();
+        judged("restored", j, 2, 144, 25, 1, 6);
+        j.out(0);
+        judged("out", j, 2, 0, 1, 3, 3);
+        j.add(0, 0, 0);
+        judged("come", j, 2, 144, 25, 4, 3);
+        j.tolerance(24);
+        due.is("tolerance told", j.judge(2, 4), 1);
+        j.undo();
+        due.is("tolerance undone", j.judge(2, 4), 0);
+        becomesNarrow();
+    }
+
+    /** From a wide one to one place, to one line, to nothing. */
+    private static void becomesNarrow() {
+        for (int by = 0; by < 4; by++) {
+            for (String text : new String[] {"5,5,5", "5,5,5;5,5,6", "5,5,5;5,6,5", "5,5,5;6,5,5", "1,1,1;2,2,2;3,3,3"}) {
+                ZoneJudge j = cube(6);
+                judged("wide", j, by, 36, 1);
+                narrower("wide", j, by, 0, 36, 1);
+                typed(j, text);
+                j.read();
+                judged("then <" + text + ">", j, by, 0, 1);
+                due.is("then <" + text + "> is good", j.judge(by, 4), 1);
+                narrower("then <" + text + ">", j, by, 0, 0, 1);
+                j.undo();
+                judged("wide again", j, by, 36, 1);
+            }
+            ZoneJudge j = cube(6);
+            judged("wide", j, by, 36, 1);
+            while (j.count(0) > 0) j.out(0);
+            judged("then none", j, by, 0, 1, 0, 0, 1, NONE);
+            noWay("then none", j, by);
+        }
     }
 
     /** Fractions are in lowest terms; 0 is 0 by 1. */
@@ -443,5 +556,64 @@ public final class JudgeBoundsTest extends Setup {
         odds("just good", j, 2, 5, 1, 1);
         j.tolerance(999);
         odds("most", j, 2, 0, 1, 1);
+        j.tolerance(0);
+        odds("least again", j, 2, 5, 7, 8);
+        odds("least again", j, 2, 0, 0, 1);
+        j.add(4, 3, 0);
+        odds("four", j, 2, 5, 11, 16);
+        j.out(0);
+        odds("three again", j, 2, 5, 7, 8);
+    }
+
+    /** The same bound as of GOOD: 100 times WIDTH, TOLERANCE squared. */
+    private static void lostAtTheBound() {
+        ZoneJudge j = told(-15, -15, 0, 15, -15, 0, -15, 15, 0, 15, 15, 0);
+        j.tolerance(299);
+        odds("all too wide", j, 2, 0, 0, 1);
+        // three of them are 450 wide, squared
+        odds("three are good", j, 2, 5, 15, 16);
+        j.tolerance(300);
+        odds("all just good", j, 2, 0, 1, 1);
+        j.tolerance(213);
+        odds("three just good", j, 2, 5, 15, 16);
+        j.tolerance(212);
+        odds("three just too wide", j, 2, 5, 11, 16);
+    }
+
+    /** Two that are SEEN in one place are one place, as long as one of them is left. */
+    private static void lostSeenInOnePlace() {
+        ZoneJudge j = told(0, 0, 0, 0, 0, 1, 9, 0, 0, 0, 9, 0);
+        j.tolerance(0);
+        odds("not good", j, 2, 0, 0, 1);
+        // not good: both others are left, and one of the two at least
+        odds("half", j, 2, 5, 13, 16);
+        odds("along y two are in one place, too", j, 1, 5, 13, 16);
+        odds("2 of 10", j, 2, 2, 241, 625);
+    }
+
+    private static void lostOfNeighbours() {
+        ZoneJudge j = told(0, 0, 0, 1, 0, 0, 0, 1, 0, 1, 1, 0);
+        odds("one by one", j, 2, 0, 1, 1);
+        j.tolerance(9);
+        // three of them are half as wide, squared: 50
+        odds("not all of them", j, 2, 5, 15, 16);
+        j.tolerance(7);
+        odds("no three of them", j, 2, 5, 11, 16);
+        ZoneJudge pair = told(0, 0, 0, 1, 0, 0, 0, 0, 1, 1, 0, 1, 2, 0, 0);
+        pair.tolerance(0);
+        odds("in one line, a step apart", pair, 2, 0, 1, 1);
+    }
+
+    /** Whichever of three is told first, and whichever way round. */
+    private static void lostInAnyOrder() {
+        int[][] orders = {{0, 1, 2}, {0, 2, 1}, {1, 0, 2}, {1, 2, 0}, {2, 0, 1}, {2, 1, 0}};
+        int[][] places = {{0, 0}, {9, 0}, {4, 1}};
+        for (int[] order : orders) {
+            ZoneJudge j = new ZoneJudge();
+            for (int k : order) j.add(places[k][0], places[k][1], 0);
+            odds("just good", j, 2, 0, 1, 1);
+            j.tolerance(9);
+            odds("just too wide", j, 2, 0, 0, 1);
+        }
     }
 }

@@ -22,6 +22,7 @@ public final class PointBoundsTest extends Setup {
         hullAgainstTheClock();
         hullLeastNumber();
         hullOfTen();
+        hullOfNeighbours();
         edgeBounds();
         edgesOfFew();
         edgeBehindTheLast();
@@ -287,6 +288,16 @@ public final class PointBoundsTest extends Setup {
         due.is("in one line along y", j.hull(1, 0), 9);
         due.is("in one line along y", j.hull(1, 1), 0);
         due.is("in one line along y", j.hull(1, 2), NONE);
+    }
+
+    /** Corners that are as close as can be. */
+    private static void hullOfNeighbours() {
+        ZoneJudge j = told(0, 0, 0, 1, 0, 0, 1, 1, 0, 0, 1, 0);
+        int[] square = {0, 1, 2, 3, NONE};
+        for (int k = 0; k < square.length; k++) due.is("square, corner " + k, j.hull(2, k), square[k]);
+        for (int k = 0; k < 4; k++) due.is("square, edge " + k, j.edge(2, k, 0), 1);
+        due.is("two, first", told(0, 1, 0, 0, 0, 0).hull(2, 0), 1);
+        due.is("two, second", told(0, 1, 0, 0, 0, 0).hull(2, 1), 0);
     }
 
     /** BAD: also k below 0; NONE: there is no such EDGE. */
