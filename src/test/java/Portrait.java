@@ -2,7 +2,7 @@ import java.util.ArrayList;
 import java.util.List;
 
 /**
- * All that can be seen of an object, in parts: each part uses the object up, so that each is asked of a new one
+ * What can be seen of an object (of SHEETS the first items), in parts: each part uses the object up, so that each is asked of a new one
  * that was told the same.
  */
 final class Portrait {
