@@ -2,13 +2,14 @@ import java.util.ArrayList;
 import java.util.List;
 
 /**
- * What can be seen of an object (of SHEETS the first items), in parts: each part uses the object up, so that each is asked of a new one
- * that was told the same.
+ * What can be seen of an object, in parts: each part uses the object up, so that each is asked of a new one that was
+ * told the same. An item that isn't -15 .. 15 is seen as such, no more: no call tells two of these apart.
  */
 final class Portrait {
-    static final int PARTS = 6;
-    /** So many of each SHEET are looked at: an object is used for at most 512 calls. */
-    private static final int ITEMS = 8;
+    /** The first of four parts, one a SHEET: two together would go beyond an object's 512 calls. */
+    static final int SHEET_PART = 4;
+    static final int PARTS = SHEET_PART + 4;
+    private static final int ITEMS = 24;
     private static final int LEVELS = 7;
 
     private final ZoneJudge judge;
@@ -25,8 +26,7 @@ final class Portrait {
             case 1: portrait.past(); break;
             case 2: portrait.image(); break;
             case 3: portrait.tape(); break;
-            case 4: for (int sheet = 0; sheet < 3; sheet++) portrait.sheet(sheet, 3); break;
-            default: portrait.sheet(3, 0);
+            default: portrait.sheet(part - SHEET_PART, part == SHEET_PART ? 1 : 0);
         }
         return portrait.seen;
     }

@@ -49,14 +49,20 @@ public final class RefusedTest extends Setup {
         return j;
     }
 
-    /** Ten POINTS, six known, THE TAPE full, all SHEETS full, an IMAGE of six known. */
+    /**
+     * Ten POINTS, six known, THE TAPE full, all SHEETS full, an IMAGE of six known. Each item differs from the next,
+     * so that one that goes astray is seen; a film tells them by few calls, for the portrait needs most of the 512.
+     */
     private static ZoneJudge full() {
         ZoneJudge j = tenCorners();
         j.image();
         j.tolerance(0);
         j.seed(MAX);
         for (int k = 0; k < 90; k++) j.type('1');
-        for (int s = 0; s < 4; s++) filled(j, s, s, 24, 2, 16, 7);
+        for (int s = 0; s < 4; s++) {
+            filled(j, s, s, 24, 2, 16, 7, -1);
+            j.film(2, s, s, 4);
+        }
         return j;
     }
 
@@ -82,14 +88,15 @@ public final class RefusedTest extends Setup {
         differs("image", 2, j -> j.image());
         differs("type", 3, j -> j.type(' '));
         differs("read", 3, j -> j.read());
-        differs("item", 4, j -> j.item(1, 1, 3, 8));
-        differs("a long", 4, j -> { j.sheet(2, 3, 1); return j.item(2, 3, 0, 1L << 32); });
-        differs("film", 4, j -> { j.out(0); j.out(0); return j.film(0, 1, 1, 0); });
-        differs("sheet", 5, j -> j.sheet(3, 0, 0));
-        differs("another length", 4, j -> j.sheet(2, 3, 1));
-        differs("another lane", 4, j -> j.sheet(2, 2, 0));
-        differs("drop", 4, j -> j.drop(2));
-        differs("copy", 4, j -> j.copy(1, 0, 1, 1, 1));
+        differs("item", Portrait.SHEET_PART + 1, j -> j.item(1, 1, 3, 8));
+        differs("a long", Portrait.SHEET_PART + 2, j -> { j.sheet(2, 3, 1); return j.item(2, 3, 0, 1L << 32); });
+        differs("film", Portrait.SHEET_PART + 1, j -> { j.out(0); j.out(0); return j.film(0, 1, 1, 0); });
+        differs("sheet", Portrait.SHEET_PART + 3, j -> j.sheet(3, 0, 0));
+        differs("another length", Portrait.SHEET_PART + 2, j -> j.sheet(2, 3, 1));
+        differs("another lane", Portrait.SHEET_PART + 2, j -> j.sheet(2, 2, 0));
+        differs("drop", Portrait.SHEET_PART + 2, j -> j.drop(2));
+        differs("the last item", Portrait.SHEET_PART + 1, j -> j.item(1, 1, 3, -7));
+        differs("copy", Portrait.SHEET_PART + 1, j -> j.copy(1, 0, 1, 1, 1));
     }
 
     private static void differs(String what, int part, Call call) {
@@ -231,6 +238,6 @@ public final class RefusedTest extends Setup {
         refused("asked: lost", s, j -> j.lost(2, 10, 0), 1);
         refused("asked: corners", s, j -> j.corners(1, 1, 0, 2), 3);
         refused("full, asked: lost", RefusedTest::full, j -> j.lost(2, 0, 1), 1);
-        refused("full, asked: corners", RefusedTest::full, j -> j.corners(2, 2, 2, 10), 3);
+        refused("full, asked: corners", RefusedTest::full, j -> j.corners(2, 2, 2, 10), 1011);
     }
 }

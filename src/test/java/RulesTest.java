@@ -77,7 +77,10 @@ public final class RulesTest {
                 else due.isTrue(f + " is final", Modifier.isFinal(f.getModifiers()));
             }
             due.isTrue(c + " has some twenty fields", fields <= 20);
-            for (Method m : c.getDeclaredMethods()) due.isTrue(m + " takes seven", m.getParameterCount() <= 7);
+            for (Method m : c.getDeclaredMethods()) {
+                due.isTrue(m + " takes seven", m.getParameterCount() <= 7);
+                due.isTrue(m + " bears no public name", Arrays.stream(FACE).noneMatch(f -> f.contains(" " + m.getName() + "(")));
+            }
         }
     }
 
